@@ -102,7 +102,17 @@ public final class BookTests {
         Due.is("redo", sums.told(5), 0);
         Due.is("images", sums.told(6), 0);
         Due.is("register", sums.register(0, 0), 0);
+        sums.choose(1);
+        sums.choose(1);
+        sums.undo();
         Due.is("a third book", Due.book(sums, "field f 11 order 5"), 1);
+        Due.is("equations", sums.told(1), 0);
+        Due.is("lets", sums.told(2), 0);
+        Due.is("field of registers", sums.told(3), 0);
+        Due.is("undo", sums.told(4), 0);
+        Due.is("redo", sums.told(5), 0);
+        Due.is(sums, "undo", sums.undo(), false, 6);
+        Due.is(sums, "redo", sums.redo(), false, 6);
         Due.is("prime", sums.field(0, 0), 11);
         Due.is(sums, "the second field is gone", sums.field(1, 0), -1, 1);
     }
@@ -221,6 +231,8 @@ public final class BookTests {
         Due.good(LET + "z 99", 1);
         Due.good(LET + "z 0*999-0", 1);
         Due.fault(LET + "z 100", 4, 34);
+        Due.fault(LET + "1*z 100", 4, 36);
+        Due.fault(LET + "1+(1*z 100", 4, 39);
         Due.fault(LET + "sum 3,0", 4, 36);
         Due.fault(LET + "sum 0,3", 4, 38);
         Due.good(LET + "sum 0,2", 1);
@@ -294,6 +306,9 @@ public final class BookTests {
         Due.fault(LET + "500*500*400;let b in f be a+1", 7, 48);
         Due.good(LET + "500*500*400;let b in f be a-1", 1);
         Due.fault(F + "let  abc in f be 999*999*999", 7, 23);
+        TurningSums sums = new TurningSums();
+        Due.is(sums, "too great", Due.book(sums, LET + "999*999*999"), -1, 4);
+        Due.is(sums, "not too great", Due.book(sums, LET + "999*999"), 1, 0);
     }
 
     private static void orderOfFaults() {

@@ -370,7 +370,14 @@ public final class FieldTests {
             Due.is(sums, "noise r", sums.noise(0, r), -1, 2);
         }
         Due.is(sums, "curve", sums.curve(0, 4), 2328, 0);
+        sums.noise(0, -1);
         Due.is(sums, "noise", sums.noise(0, 6) > 0, true, 0);
+        sums.noise(0, -1);
+        Due.is(sums, "lowest", sums.lowest(0), 3, 0);
+        sums.parts(0, 1, -1);
+        Due.is(sums, "parts", sums.parts(1, 1, 1), 2, 0);
+        sums.size(9);
+        Due.is(sums, "size", sums.size(0), 0, 0);
     }
 
     private static void knownAnswers() {

@@ -208,6 +208,11 @@ public final class LetTests {
         row("z 8 of 9", nine, 1, 0, 0, -1, 0, 0, -1);
         row("z 4 of 10", nine, 2, -1, 1, -1, 1);
         row("z 9 of 10", nine, 3, 1, -1, 1, -1);
+        TurningSums deep = Due.with("field f 7 order 3;let a in f be 1+(1+2*(1+2*(1+2*(1+2*(1+2*(1+2*(1+2*(1+2*z 1))))))));"
+            + "let b in f be conj turn 2 conj turn 2 conj turn 2 conj turn 2 z 1;let c in f be conj conj conj conj conj conj conj z 1");
+        row("brackets", deep, 0, 256, 256);
+        row("conj and turn", deep, 1, 0, 1);
+        row("conj", deep, 2, -1, -1);
         TurningSums bound = Due.with("field f 7 order 2;let a in f be 500*500*400;let b in f be 0-a");
         row("the most", bound, 0, 100000000);
         row("the least", bound, 1, -100000000);

@@ -309,6 +309,17 @@ public final class RegisterTests {
         sums.add(0, 1, 5);
         row(sums, 0, 34, 0);
         Due.is("told(4)", sums.told(4), 20);
+        for (int i = 0; i < 21; i++) {
+            // So that every state that is kept holds something else than 0, of another field than the first.
+            sums.choose(1);
+            sums.jacobi(0, 0, 0);
+        }
+        Due.is("a new book", Due.book(sums, BOOK), 3);
+        Due.is("told(3)", sums.told(3), 0);
+        row(sums, 0, 0, 0);
+        sums.jacobi(3, 1, 1);
+        sums.undo();
+        row(sums, 3, 0, 0);
     }
 
     private static int any(int bound) {
