@@ -41,7 +41,8 @@ public final class FieldTests {
         private final int g;
         private final int[] log;
         private final List<Integer> turns = new ArrayList<>();
-        private final TurningSums sums;
+        private TurningSums latest;
+        private int asked;
         private final String name;
 
         Held(int p, int n) {
@@ -64,7 +65,15 @@ public final class FieldTests {
                     turns.add(t);
                 }
             }
-            sums = Due.with("field f " + p + " order " + n);
+        }
+
+        /** An object is good for 512 calls: now and then a new one is asked. */
+        private TurningSums sums() {
+            if (asked % 200 == 0) {
+                latest = Due.with("field f " + p + " order " + n);
+            }
+            asked++;
+            return latest;
         }
 
         private static boolean isRoot(int g, int p) {
@@ -88,19 +97,19 @@ public final class FieldTests {
         }
 
         void check() {
-            Due.is(name + "prime", sums.field(0, 0), p);
-            Due.is(name + "order", sums.field(0, 1), n);
-            Due.is(name + "root", sums.field(0, 2), g);
-            Due.is(name + "row", sums.field(0, 3), turns.size());
+            Due.is(name + "prime", sums().field(0, 0), p);
+            Due.is(name + "order", sums().field(0, 1), n);
+            Due.is(name + "root", sums().field(0, 2), g);
+            Due.is(name + "row", sums().field(0, 3), turns.size());
             for (int x = 1; x < p; x++) {
-                Due.is(name + "log " + x, sums.log(0, x), log[x]);
+                Due.is(name + "log " + x, sums().log(0, x), log[x]);
             }
             checkCharacters();
             checkSums();
             checkRelations();
             checkPowers();
             checkRows();
-            Due.is(name + "curve", sums.curve(0, 1), pointsOverPrime());
+            Due.is(name + "curve", sums().curve(0, 1), pointsOverPrime());
         }
 
         private int character(int a, int x) {
@@ -110,7 +119,7 @@ public final class FieldTests {
         private void checkCharacters() {
             for (int a = 0; a < n; a++) {
                 for (int x = 0; x < p; x += 1 + x / 20) {
-                    Due.is(name + "character " + a + ", " + x, sums.character(0, a, x), character(a, x));
+                    Due.is(name + "character " + a + ", " + x, sums().character(0, a, x), character(a, x));
                 }
             }
         }
@@ -142,7 +151,7 @@ public final class FieldTests {
                 for (int b = 0; b < n; b++) {
                     int[] row = new int[turns.size()];
                     for (int i = 0; i < row.length; i++) {
-                        row[i] = sums.sum(0, a, b, i);
+                        row[i] = sums().sum(0, a, b, i);
                     }
                     int zeros = 0;
                     for (int t : turns) {
@@ -154,12 +163,12 @@ public final class FieldTests {
                         Due.is(name + "sum " + a + ", " + b + " turned by " + t, close(value, sumAt(a, b, t)), true);
                         int part = partOf(a, b, t);
                         zeros += part == 0 ? 1 : 0;
-                        Due.is(name + "part " + a + ", " + b + ", " + t, sums.part(0, a, b, t), part);
+                        Due.is(name + "part " + a + ", " + b + ", " + t, sums().part(0, a, b, t), part);
                         checkLaw(a, b, t, part);
                     }
-                    Due.is(name + "parts " + a + ", " + b, sums.parts(0, a, b), zeros);
+                    Due.is(name + "parts " + a + ", " + b, sums().parts(0, a, b), zeros);
                     double[] one = sumAt(a, b, 1);
-                    Due.is(name + "norm " + a + ", " + b, sums.norm(0, a, b), Math.round(one[0] * one[0] + one[1] * one[1]));
+                    Due.is(name + "norm " + a + ", " + b, sums().norm(0, a, b), Math.round(one[0] * one[0] + one[1] * one[1]));
                 }
             }
         }
@@ -177,9 +186,10 @@ public final class FieldTests {
 
         private void checkLaw(int a, int b, int t, int part) {
             if (a == 0 || b == 0 || (a + b) % n == 0) {
+                TurningSums sums = sums();
                 Due.is(sums, name + "law", sums.law(0, a, b, t), -1, 5);
             } else {
-                int law = sums.law(0, a, b, t);
+                int law = sums().law(0, a, b, t);
                 Due.is(name + "law " + a + ", " + b + ", " + t, law, t * a % n + t * b % n < n ? 1 : 0);
                 Due.is(name + "what the law says of " + a + ", " + b + ", " + t, law, part == 0 ? 1 : 0);
             }
@@ -197,7 +207,7 @@ public final class FieldTests {
                     for (int c = (a + b) % 2; c < n; c += 2) {
                         double[] left = product(table[a][b], table[(a + b) % n][c]);
                         double[] right = product(table[b][c], table[a][(b + c) % n]);
-                        Due.is(name + "relation " + a + ", " + b + ", " + c, sums.relation(0, a, b, c), close(left, right) ? 1 : 0);
+                        Due.is(name + "relation " + a + ", " + b + ", " + c, sums().relation(0, a, b, c), close(left, right) ? 1 : 0);
                     }
                 }
             }
@@ -210,7 +220,7 @@ public final class FieldTests {
                     met[power(y, k, p)] = true;
                 }
                 for (int x = 1; x < p; x += 1 + x / 10) {
-                    Due.is(name + x + " a power " + k, sums.power(0, x, k), met[x] ? 1 : 0);
+                    Due.is(name + x + " a power " + k, sums().power(0, x, k), met[x] ? 1 : 0);
                 }
             }
             boolean[] met = new boolean[p];
@@ -220,14 +230,14 @@ public final class FieldTests {
             int rank = 0;
             for (int x = 1; x < p; x++) {
                 if (met[x]) {
-                    Due.is(name + "led " + rank, sums.led(0, rank), x);
+                    Due.is(name + "led " + rank, sums().led(0, rank), x);
                     rank++;
                 }
             }
-            Due.is(name + "led " + rank, Due.ledThrows(sums, 0, rank), true);
-            Due.is(name + "led -1", Due.ledThrows(sums, 0, -1), true);
+            Due.is(name + "led " + rank, Due.ledThrows(sums(), 0, rank), true);
+            Due.is(name + "led -1", Due.ledThrows(sums(), 0, -1), true);
             checkMeetings();
-            Due.is(name + "even", sums.even(0), evenness(met));
+            Due.is(name + "even", sums().even(0), evenness(met));
         }
 
         private void checkMeetings() {
@@ -237,7 +247,7 @@ public final class FieldTests {
                     for (int x = 1; x <= p - 2; x++) {
                         all += log[x] % n == i && log[x + 1] % n == j ? 1 : 0;
                     }
-                    Due.is(name + "meets " + i + ", " + j, sums.meets(0, i, j), all);
+                    Due.is(name + "meets " + i + ", " + j, sums().meets(0, i, j), all);
                 }
             }
         }
@@ -274,17 +284,17 @@ public final class FieldTests {
                     }
                     noise += (long) echo * echo;
                     if ((r + s) % 9 == 0) {
-                        Due.is(name + "echo " + r + ", " + s, sums.echo(0, r, s), echo);
+                        Due.is(name + "echo " + r + ", " + s, sums().echo(0, r, s), echo);
                     }
                 }
-                Due.is(name + "echo " + r + ", 0", sums.echo(0, r, 0), p);
-                Due.is(name + "noise " + r, sums.noise(0, r), noise);
+                Due.is(name + "echo " + r + ", 0", sums().echo(0, r, 0), p);
+                Due.is(name + "noise " + r, sums().noise(0, r), noise);
                 if (noise < least) {
                     least = noise;
                     best = r;
                 }
             }
-            Due.is(name + "lowest", sums.lowest(0), best);
+            Due.is(name + "lowest", sums().lowest(0), best);
         }
 
         private int pointsOverPrime() {

@@ -83,7 +83,7 @@ public final class LetTests {
         return values;
     }
 
-    private static Said atom(TurningSums sums, int p, int n, int depth) {
+    private static Said atom(int p, int n, int depth) {
         int kind = any(depth > 3 ? 3 : 6);
         if (kind == 0) {
             int value = any(9);
@@ -97,9 +97,11 @@ public final class LetTests {
             int a = any(n);
             int b = any(n);
             double[][] values = scaled(n, 0);
+            // An object is good for 512 calls.
+            TurningSums fresh = Due.with("field f " + p + " order " + n);
             for (int x = 0; x < p; x++) {
-                int left = sums.character(0, a, x);
-                int right = sums.character(0, b, (1 - x + p) % p);
+                int left = fresh.character(0, a, x);
+                int right = fresh.character(0, b, (1 - x + p) % p);
                 if (left != -2 && right != -2) {
                     values = plus(values, powerOfZ(n, left + right), 1);
                 }
@@ -107,7 +109,7 @@ public final class LetTests {
             return new Said("sum " + a + "," + b, values);
         }
         if (kind == 3) {
-            Said inner = atom(sums, p, n, depth + 1);
+            Said inner = atom(p, n, depth + 1);
             return new Said("conj " + inner.text, turned(inner.values, n - 1));
         }
         if (kind == 4) {
@@ -116,35 +118,34 @@ public final class LetTests {
                 int other = 1 + any(n - 1 > 0 ? n - 1 : 1);
                 t = common(other, n) == 1 ? other : t;
             }
-            Said inner = atom(sums, p, n, depth + 1);
+            Said inner = atom(p, n, depth + 1);
             return new Said("turn " + t + " " + inner.text, turned(inner.values, t));
         }
-        Said inner = sum(sums, p, n, depth + 1);
+        Said inner = sum(p, n, depth + 1);
         return new Said("(" + inner.text + ")", inner.values);
     }
 
-    private static Said product(TurningSums sums, int p, int n, int depth) {
-        Said all = atom(sums, p, n, depth);
+    private static Said product(int p, int n, int depth) {
+        Said all = atom(p, n, depth);
         for (int i = any(3); i > 1; i--) {
-            Said next = atom(sums, p, n, depth);
+            Said next = atom(p, n, depth);
             all = new Said(all.text + "*" + next.text, times(all.values, next.values));
         }
         return all;
     }
 
-    private static Said sum(TurningSums sums, int p, int n, int depth) {
-        Said all = product(sums, p, n, depth);
+    private static Said sum(int p, int n, int depth) {
+        Said all = product(p, n, depth);
         for (int i = any(4); i > 1; i--) {
             boolean less = any(2) == 0;
-            Said next = product(sums, p, n, depth);
+            Said next = product(p, n, depth);
             all = new Said(all.text + (less ? " - " : " + ") + next.text, plus(all.values, next.values, less ? -1 : 1));
         }
         return all;
     }
 
     private static void oneText(int p, int n) {
-        TurningSums plain = Due.with("field f " + p + " order " + n);
-        Said said = sum(plain, p, n, 0);
+        Said said = sum(p, n, 0);
         String text = "field f " + p + " order " + n + ";let a in f be " + said.text;
         if (text.length() > 880) {
             return;
@@ -168,12 +169,14 @@ public final class LetTests {
 
     private static int partOf(TurningSums sums, int p, int n, int t) {
         long z = 1;
+        int root = sums.field(0, 2);
+        int length = sums.field(0, 3);
         for (int i = 0; i < t * (p - 1) / n; i++) {
-            z = z * sums.field(0, 2) % p;
+            z = z * root % p;
         }
         long all = 0;
         long power = 1;
-        for (int i = 0; i < sums.field(0, 3); i++) {
+        for (int i = 0; i < length; i++) {
             all += power * sums.let(0, i);
             power = power * z % p;
         }

@@ -35,6 +35,10 @@ public final class MachineTests {
             int many = method.getParameterCount();
             TurningSums sums = withBook ? Due.with(GOOD) : new TurningSums();
             for (int round = 0; round < (many == 0 ? 30 : many == 1 ? ODD.length : 600); round++) {
+                if (round % 200 == 199) {
+                    // An object is good for 512 calls.
+                    sums = withBook ? Due.with(GOOD) : new TurningSums();
+                }
                 Object[] arguments = new Object[many];
                 for (int i = 0; i < many; i++) {
                     arguments[i] = many == 1 ? ODD[round] : ODD[any(ODD.length)];

@@ -164,12 +164,16 @@ public final class RegisterTests {
     }
 
     private static boolean soFar(TurningSums sums) {
+        long[] row = new long[6];
+        for (int j = 0; j < 6; j++) {
+            row[j] = sums.register(0, j);
+        }
         long[] all = {1, 0, 0, 0, 0, 0, 0};
         for (int t = 1; t < 7; t++) {
             long[] next = new long[7];
             for (int i = 0; i < 7; i++) {
                 for (int j = 0; j < 6; j++) {
-                    next[(i + j * t) % 7] += all[i] * sums.register(0, j);
+                    next[(i + j * t) % 7] += all[i] * row[j];
                 }
             }
             for (int i = 0; i < 7; i++) {
@@ -328,11 +332,11 @@ public final class RegisterTests {
     }
 
     private static String seen(TurningSums sums) {
-        StringBuilder seen = new StringBuilder().append(sums.told(3));
+        int f = sums.told(3);
+        StringBuilder seen = new StringBuilder().append(f);
         for (int r = 0; r < 4; r++) {
-            for (int i = 0; i < 4; i++) {
-                int number = sums.register(r, i);
-                seen.append(' ').append(number);
+            for (int i = 0; i < new int[] {2, 4, 1}[f]; i++) {
+                seen.append(' ').append(sums.register(r, i));
             }
         }
         return seen.toString();
@@ -359,39 +363,46 @@ public final class RegisterTests {
 
     /** Runs of acts, held against a list of all that was seen. */
     private static void anyRuns() {
-        for (int round = 0; round < 60; round++) {
+        for (int round = 0; round < 240; round++) {
             TurningSums sums = Due.with(BOOK);
             List<String> before = new ArrayList<>();
             List<String> behind = new ArrayList<>();
-            for (int step = 0; step < 120; step++) {
-                String was = seen(sums);
+            String is = seen(sums);
+            // No more steps than 512 calls allow.
+            for (int step = 0; step < 24; step++) {
                 int kind = any(10);
+                boolean acted = false;
+                String due = is;
                 if (kind < 2) {
                     Due.is("undo", sums.undo(), !before.isEmpty());
-                    if (!before.isEmpty()) {
-                        behind.add(was);
-                        Due.is("seen after undo", seen(sums).equals(before.remove(before.size() - 1)), true);
-                    }
+                    due = moved(is, before, behind);
                 } else if (kind < 4) {
                     Due.is("redo", sums.redo(), !behind.isEmpty());
-                    if (!behind.isEmpty()) {
-                        before.add(was);
-                        Due.is("seen after redo", seen(sums).equals(behind.remove(behind.size() - 1)), true);
-                    }
+                    due = moved(is, behind, before);
                 } else if (kind == 4) {
                     sums.image();
                 } else if (anyAct(sums)) {
-                    before.add(was);
+                    acted = true;
+                    before.add(is);
                     behind.clear();
                     if (before.size() > 20) {
                         before.remove(0);
                     }
-                } else {
-                    Due.is("a refused act changes nothing", seen(sums).equals(was), true);
                 }
+                is = seen(sums);
+                Due.is("seen", acted || is.equals(due), true);
                 Due.is("told(4)", sums.told(4), before.size());
                 Due.is("told(5)", sums.told(5), behind.size());
             }
         }
+    }
+
+    /** What is seen when the latest of one list comes back and what is goes to the other. */
+    private static String moved(String is, List<String> from, List<String> to) {
+        if (from.isEmpty()) {
+            return is;
+        }
+        to.add(is);
+        return from.remove(from.size() - 1);
     }
 }

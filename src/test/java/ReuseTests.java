@@ -22,7 +22,7 @@ public final class ReuseTests {
             }
         }
         CALLS.sort(Comparator.comparing(Method::getName));
-        for (int round = 0; round < 30; round++) {
+        for (int round = 0; round < 120; round++) {
             oneObject();
         }
         Due.end();
@@ -50,7 +50,7 @@ public final class ReuseTests {
                 // So that both have met the same latest fault.
                 Due.book(fresh, text);
             }
-            for (int i = 0; i < 40; i++) {
+            for (int i = 0; i < 18; i++) {
                 Method method = CALLS.get(any(CALLS.size()));
                 Object[] arguments = new Object[method.getParameterCount()];
                 for (int j = 0; j < arguments.length; j++) {

@@ -4,8 +4,9 @@ public final class SquareTests {
     }
 
     public static void main(String[] args) {
-        TurningSums sums = new TurningSums();
         for (int p = -3; p <= 215; p++) {
+            // An object is good for 512 calls.
+            TurningSums sums = new TurningSums();
             checkSigns(sums, p);
             checkForms(sums, p);
             checkClassSums(sums, p);
@@ -14,9 +15,9 @@ public final class SquareTests {
             }
         }
         for (int d = -5; d <= 1010; d++) {
-            checkClassForms(sums, d);
+            checkClassForms(new TurningSums(), d);
         }
-        known(sums);
+        known(new TurningSums());
         Due.end();
     }
 
