@@ -593,7 +593,11 @@ public final class TurningSums {
         }
 
         static int mod(long x, int by) {
-            return by < 1 ? 0 : (int) Math.floorMod(x, (long) by);
+            if (by < 1) {
+                return 0;
+            }
+            int rest = (int) (x % by);
+            return rest < 0 ? rest + by : rest;
         }
 
         static void setWhole(long[] row, long value) {
